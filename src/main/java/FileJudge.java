@@ -335,7 +335,7 @@ public final class FileJudge {
             return row.number(start + SECTION_PLACE, 8);
         }
 
-        /** Not always the section's length: that of some kinds is told of memory, and takes no bytes of the file. */
+        /** Not always the section's length: two kinds take no bytes of the file, whatever length they tell. */
         long roomLength(int start) {
             long kind = row.number(start + SECTION_KIND, 4);
             if (kind == KIND_NONE || kind == KIND_EMPTY) {

@@ -12,6 +12,7 @@ public final class QuestionsTest {
         symbol();
         symbolNamesByLink();
         find();
+        bytesBehindTablesAreNoRows();
         findAtTheTop();
         filesThatAreNotGoodAnswerNothing();
         refusalsCountInOrder();
@@ -178,6 +179,15 @@ public final class QuestionsTest {
         Expect.answer("no memory, no address in it", -1, () -> y.find(0x1000));
         FileJudge z = Sample.segments().segment(0, Sample.S_FLAGS, 0).judged();
         Expect.answer("found though it may not be run", 0, () -> z.find(0x1000));
+    }
+
+    private static void bytesBehindTablesAreNoRows() {
+        FileJudge x = Sample.segments().head(Sample.SEGMENTS, 3).judged();
+        Expect.answer("find in no segment", -1, () -> x.find(-16));
+        Expect.noElement("segment 3", () -> x.segment(3, 0));
+        FileJudge y = Sample.full().head(Sample.SECTIONS, 5).judged();
+        Expect.noElement("section 5", () -> y.section(5, 0));
+        Expect.noElement("symbols 5", () -> y.symbols(5));
     }
 
     private static void findAtTheTop() {

@@ -23,6 +23,8 @@ public final class RulesTest {
         rule14();
         theFirstRuleCounts();
         theFirstRowCounts();
+        bytesBehindTablesAreNoRows();
+        rowsAtTheEndOfTheFile();
         judgedAgain();
         Expect.end();
     }
@@ -273,6 +275,7 @@ public final class RulesTest {
         verdict("texts on names, told of the later", sec(2, Sample.T_PLACE, 135), 10, 2);
         verdict("names on texts, told of the later", sec(1, Sample.T_PLACE, 128), 10, 2);
         verdict("bytes on all", sec(4, Sample.T_PLACE, 0).section(4, Sample.T_LENGTH, 616), 10, 4);
+        verdict("bytes on the head's begin", sec(4, Sample.T_PLACE, 0).section(4, Sample.T_LENGTH, 1), 10, 4);
         verdict("bytes on the head's end", sec(4, Sample.T_PLACE, 63).section(4, Sample.T_LENGTH, 1), 10, 4);
         verdict("bytes on the segments", sec(4, Sample.T_PLACE, 64).section(4, Sample.T_LENGTH, 1), 10, 4);
         verdict("bytes on the segments' end", sec(4, Sample.T_PLACE, 119).section(4, Sample.T_LENGTH, 1), 10, 4);
@@ -280,6 +283,8 @@ public final class RulesTest {
         verdict("bytes on the sections' end", sec(4, Sample.T_PLACE, 599), 10, 4);
         verdict("bytes in names", sec(4, Sample.T_PLACE, 121).section(4, Sample.T_LENGTH, 1), 10, 4);
         verdict("bytes at the place of names", sec(4, Sample.T_PLACE, 120), 10, 4);
+        verdict("bytes round a single one", sec(2, Sample.T_LENGTH, 1).section(4, Sample.T_PLACE, 136)
+            .section(4, Sample.T_LENGTH, 8), 10, 4);
         good("no bytes in names", sec(4, Sample.T_PLACE, 121).section(4, Sample.T_LENGTH, 0));
         good("no bytes on the head", sec(4, Sample.T_PLACE, 0).section(4, Sample.T_LENGTH, 0));
         good("an empty one in names", sec(5, Sample.T_PLACE, 121));
@@ -366,7 +371,9 @@ public final class RulesTest {
         verdict("info too high", sec(3, Sample.T_INFO, 3), 13, 3);
         verdict("info too low", sec(3, Sample.T_INFO, 1), 13, 3);
         verdict("symbol 0 is local", sec(3, Sample.T_INFO, 0).section(3, Sample.T_LENGTH, 24), 13, 3);
-        good("symbol 0 alone", sec(3, Sample.T_INFO, 1).section(3, Sample.T_LENGTH, 24));
+        Sample alone = sec(3, Sample.T_INFO, 1).section(3, Sample.T_LENGTH, 24);
+        good("symbol 0 alone", alone);
+        verdict("symbol 0 alone, not zeros", alone.symbolPart(0, Sample.Y_SIZE, 1), 13, 3);
         good("other, value and size are free", sym(1, Sample.Y_OTHER, 255).symbolPart(1, Sample.Y_VALUE, -1));
     }
 
@@ -428,6 +435,38 @@ public final class RulesTest {
         good("two sections of symbols", two.section(4, Sample.T_INFO, 0));
         verdict("12: all sections before any symbol", two.section(4, Sample.T_INFO, 1)
             .symbolPart(1, Sample.Y_NAME, 8), 12, 4);
+    }
+
+    private static void bytesBehindTablesAreNoRows() {
+        Sample three = seg(3, Sample.S_FLAGS, 1).head(Sample.SEGMENTS, 3);
+        good("no row that sinks", Sample.segments().head(Sample.SEGMENTS, 3).segment(3, Sample.S_ADDRESS, 0));
+        good("no row that is bad", seg(3, Sample.S_ALIGNMENT, 3).head(Sample.SEGMENTS, 3));
+        bad("no row to be run", three.head(Sample.KIND, 2).head(Sample.ENTRY, -16), 14);
+        Sample five = Sample.full().head(Sample.SECTIONS, 5);
+        good("five sections", five);
+        verdict("no section 5 for a symbol", five.symbolPart(1, Sample.Y_SECTION, 5), 13, 3);
+        five.section(5, Sample.T_KIND, 3).section(5, Sample.T_PLACE, 120).section(5, Sample.T_LENGTH, 16);
+        verdict("no texts 5 to link", five.section(3, Sample.T_LINK, 5), 12, 3);
+        verdict("no texts 5 for names", five.head(Sample.NAMES, 5), 11, 0);
+        good("no texts to be closed", sec(5, Sample.T_KIND, 3).head(Sample.SECTIONS, 5));
+        good("no section of symbols", sec(5, Sample.T_KIND, 2).head(Sample.SECTIONS, 5));
+        Sample symbols = sec(5, Sample.T_KIND, 2).section(5, Sample.T_PLACE, 120).section(5, Sample.T_LENGTH, 24);
+        good("no symbols", symbols.section(5, Sample.T_LINK, 1).section(5, Sample.T_ENTRY, 24)
+            .section(5, Sample.T_INFO, 0).head(Sample.SECTIONS, 5));
+    }
+
+    private static void rowsAtTheEndOfTheFile() {
+        Sample one = Sample.head().size(120).head(Sample.SEGMENT_TABLE, 64).head(Sample.SEGMENTS, 1)
+            .head(Sample.SEGMENT_LENGTH, 56);
+        good("alignment 2^63", one.segment(0, Sample.S_ALIGNMENT, TOP));
+        verdict("rest by 2^63", one.segment(0, Sample.S_PLACE, 1), 7, 0);
+        verdict("alignment 3", one.segment(0, Sample.S_PLACE, 0).segment(0, Sample.S_ALIGNMENT, 3), 7, 0);
+        Sample last = Sample.head().size(128).head(Sample.SECTION_TABLE, 64).head(Sample.SECTIONS, 1)
+            .head(Sample.SECTION_LENGTH, 64);
+        verdict("the last byte of section 0", last.put(127, 1, 1), 9, 0);
+        Sample texts = sec(4, Sample.T_KIND, 3);
+        good("texts at the end", texts);
+        verdict("texts not closed by the last byte", texts.put(615, 1, 1), 11, 4);
     }
 
     private static void judgedAgain() {
