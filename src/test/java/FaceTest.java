@@ -30,7 +30,29 @@ public final class FaceTest {
         Expect.same("the face", due.toString(), face().toString());
         int modifiers = FileJudge.class.getModifiers();
         Expect.same("the class", "public final", Modifier.toString(modifiers));
+        privateMethodsHaveOtherNames();
+        classesInsideAreHidden();
         Expect.end();
+    }
+
+    private static void privateMethodsHaveOtherNames() {
+        TreeSet<String> seen = new TreeSet<>();
+        for (Method m : FileJudge.class.getMethods()) {
+            seen.add(m.getName());
+        }
+        for (Method m : FileJudge.class.getDeclaredMethods()) {
+            boolean same = Modifier.isPrivate(m.getModifiers()) && seen.contains(m.getName());
+            Expect.same("private " + m.getName() + " bears a public name", "false", Boolean.toString(same));
+        }
+    }
+
+    private static void classesInsideAreHidden() {
+        for (Class<?> inside : FileJudge.class.getDeclaredClasses()) {
+            int modifiers = inside.getModifiers();
+            boolean seen = Modifier.isPublic(modifiers) || Modifier.isProtected(modifiers);
+            Expect.same(inside.getSimpleName() + " can be seen", "false", Boolean.toString(seen));
+            Expect.same(inside.getSimpleName() + " is static", "true", Boolean.toString(Modifier.isStatic(modifiers)));
+        }
     }
 
     private static TreeSet<String> face() {

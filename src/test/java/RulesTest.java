@@ -1,8 +1,5 @@
 /** Promises 5 and 6: judge and broken, rule by rule with the edges that the document names. */
-public final class RulesTest {
-    private static final int NONE = -1;
-    private static final long TOP = Long.MIN_VALUE;
-
+public final class RulesTest extends Verdict {
     public static void main(String[] args) {
         samplesAreGood();
         rule1();
@@ -27,39 +24,6 @@ public final class RulesTest {
         rowsAtTheEndOfTheFile();
         judgedAgain();
         Expect.end();
-    }
-
-    private static void verdict(String what, Sample s, int rule, int broken) {
-        FileJudge x = s.fed();
-        Expect.noState(what + ": not judged", x::broken);
-        Expect.answer(what + ": judge", rule, x::judge);
-        Expect.answer(what + ": broken", broken, x::broken);
-        String due = rule == 0 ? Integer.toString(count(s, Sample.SEGMENTS)) : "throws.IllegalStateException";
-        Expect.same(what + ": many", due, Expect.told(() -> x.many(0)));
-    }
-
-    private static int count(Sample s, int place) {
-        return (s.bytes[place] & 255) + 256 * (s.bytes[place + 1] & 255);
-    }
-
-    private static void good(String what, Sample s) {
-        verdict(what, s, 0, NONE);
-    }
-
-    private static void bad(String what, Sample s, int rule) {
-        verdict(what, s, rule, NONE);
-    }
-
-    private static Sample seg(int k, int part, long value) {
-        return Sample.segments().segment(k, part, value);
-    }
-
-    private static Sample sec(int k, int part, long value) {
-        return Sample.full().section(k, part, value);
-    }
-
-    private static Sample sym(int i, int part, long value) {
-        return Sample.full().symbolPart(i, part, value);
     }
 
     private static void samplesAreGood() {

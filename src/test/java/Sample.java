@@ -48,6 +48,8 @@ final class Sample {
     static final int DATA_PLACE = 600;
 
     byte[] bytes;
+    private int segmentTable = 64;
+    private int sectionTable = 216;
 
     private Sample(int size) {
         bytes = new byte[size];
@@ -94,6 +96,23 @@ final class Sample {
         return s;
     }
 
+    /**
+     * A file of kind 1 with tables where the caller wants them: segments of zeros, which are good,
+     * and sections of zeros but for number 1, the names' section, a single 0 at a place of its own.
+     * Where a table does not fit, only the head tells of it.
+     */
+    static Sample tables(int size, int segmentTable, int segments, int sectionTable, int sections, int names) {
+        Sample s = head().size(size);
+        s.segmentTable = segmentTable;
+        s.sectionTable = sectionTable;
+        s.head(SEGMENT_TABLE, segmentTable).head(SEGMENT_LENGTH, 56).head(SEGMENTS, segments);
+        s.head(SECTION_TABLE, sectionTable).head(SECTION_LENGTH, 64).head(SECTIONS, sections);
+        if (sections > 1 && sectionTable + 128 <= size) {
+            s.head(NAMES, 1).section(1, 0, 3, names, 1, 0, 0);
+        }
+        return s;
+    }
+
     Sample size(int size) {
         bytes = Arrays.copyOf(bytes, size);
         return this;
@@ -119,8 +138,13 @@ final class Sample {
         return put(part, eight ? 8 : four ? 4 : 2, value);
     }
 
+    /** A number of 2 bytes of the head. */
+    int count(int part) {
+        return (bytes[part] & 255) + 256 * (bytes[part + 1] & 255);
+    }
+
     Sample segment(int k, int part, long value) {
-        return put(64 + 56 * k + part, part < 8 ? 4 : 8, value);
+        return put(segmentTable + 56 * k + part, part < 8 ? 4 : 8, value);
     }
 
     private void segment(int k, long kind, long flags, long place, long address, long inFile, long... more) {
@@ -131,7 +155,7 @@ final class Sample {
 
     Sample section(int k, int part, long value) {
         boolean four = part < 8 || part == T_LINK || part == T_INFO;
-        return put(216 + 64 * k + part, four ? 4 : 8, value);
+        return put(sectionTable + 64 * k + part, four ? 4 : 8, value);
     }
 
     private Sample section(int k, long name, long kind, long place, long length, long link, long info) {
@@ -164,6 +188,11 @@ final class Sample {
             }
             judge.feed(value, n);
         }
+    }
+
+    /** How often feedTo calls feed for this file. */
+    int feeds() {
+        return (bytes.length + 7) / 8;
     }
 
     FileJudge judged() {
